@@ -817,9 +817,9 @@ public final class SealFaces {
         }
 
         private int partOf(int part, int[] vars) {
-            int end = Math.min(at(ends, part), code.length);
+            int end = part >= 0 && part < ends.length ? ends[part] : 0;
             int top = 0;
-            for (int i = part == 0 ? 0 : Math.max(0, at(ends, part - 1)); i < end; i++) {
+            for (int i = part > 0 && part <= ends.length ? ends[part - 1] : 0; i >= 0 && i < end && i < code.length; i++) {
                 int element = code[i];
                 int var = -element - FIRST_VAR;
                 if (element >= 0 && top < stack.length) {
@@ -884,10 +884,6 @@ public final class SealFaces {
             growing.setTo(0);
             binding.setTo(-FIRST_VAR - WORTH);
             fading.setTo(0);
-        }
-
-        int ageOf(int clerk) {
-            return at(ages, clerk);
         }
 
         int firstOf(int clerk, int feature) {
@@ -1183,7 +1179,7 @@ public final class SealFaces {
         }
 
         int sealerOf(int deed) {
-            return at(row, SEALERS_AT + deed);
+            return deed >= 0 && deed < MOST_DEEDS ? row[SEALERS_AT + deed] : OPEN;
         }
 
         int yearNow() {
@@ -1317,7 +1313,7 @@ public final class SealFaces {
         }
 
         int ageIn(int clerk, int year) {
-            return text.ageOf(clerk) + year;
+            return at(text.ages, clerk) + year;
         }
 
         /** The sealer may be OPEN or FORGED as well. */
