@@ -1661,14 +1661,15 @@ public final class SealFaces {
         /** Bits, or NOT. */
         int fewestClerks() {
             int open = hall.deedsWith(OPEN);
-            int found = NOT;
             putLong(reached, 0, 1L);
-            for (int clerks = 0; clerks < 1 << hall.text.clerks && clerks < CLERK_SETS; clerks++) {
-                if (clerks > 0) {
-                    int last = Integer.highestOneBit(clerks);
-                    long can = longAt(canSets, Integer.numberOfTrailingZeros(last));
-                    putLong(reached, clerks, reachedWith(longAt(reached, clerks ^ last), can, open));
+            for (int last = 0; last < hall.text.clerks; last++) {
+                for (int ahead = 0; ahead < 1 << last; ahead++) {
+                    long sets = reachedWith(longAt(reached, ahead), longAt(canSets, last), open);
+                    putLong(reached, ahead | 1 << last, sets);
                 }
+            }
+            int found = NOT;
+            for (int clerks = 0; clerks < 1 << hall.text.clerks; clerks++) {
                 boolean fewer = found == NOT || Integer.bitCount(clerks) < Integer.bitCount(found);
                 if (fewer && hasSet(longAt(reached, clerks), open)) {
                     found = clerks;
@@ -1734,25 +1735,25 @@ public final class SealFaces {
                 put(left, feature, hall.scene.levelOf(clerk, feature));
             }
             long can = 1L;
-            for (int set = 1; set <= open && set < DEED_SETS; set++) {
-                int ahead = set ^ Integer.highestOneBit(set);
-                boolean goesOn = (set & ~open) == 0 && hasSet(can, ahead);
-                if (goesOn && canSealLast(clerk, set, sealed + Integer.bitCount(ahead))) {
-                    can |= 1L << set;
-                    put(scores, clerk * DEED_SETS + set, scoreOf(clerk, set, sealed + Integer.bitCount(set)));
+            for (int deed = 0; deed < hall.text.deeds; deed++) {
+                for (int ahead = 0; ahead < 1 << deed && hasBit(open, deed); ahead++) {
+                    int set = ahead | 1 << deed;
+                    if (hasSet(can, ahead) && canSealLast(clerk, ahead, deed, sealed + Integer.bitCount(ahead))) {
+                        can |= 1L << set;
+                        put(scores, clerk * DEED_SETS + set, scoreOf(clerk, set, sealed + Integer.bitCount(set)));
+                    }
                 }
             }
             putLong(canSets, clerk, can);
         }
 
-        private boolean canSealLast(int clerk, int set, int sealed) {
-            int last = Integer.highestOneBit(set);
-            int deed = Integer.numberOfTrailingZeros(last);
+        private boolean canSealLast(int clerk, int ahead, int deed, int sealed) {
+            int set = ahead | 1 << deed;
             boolean enough = true;
             int print = 0;
             int rest = 0;
             for (int feature = 0; feature < FEATURES; feature++) {
-                int level = at(left, (set ^ last) * FEATURES + feature);
+                int level = at(left, ahead * FEATURES + feature);
                 int takes = hall.takesOf(clerk, deed, feature, level, sealed);
                 put(left, set * FEATURES + feature, level - takes);
                 enough = enough && level >= takes;
