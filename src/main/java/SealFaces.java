@@ -821,12 +821,12 @@ public final class SealFaces {
             int top = 0;
             for (int i = part > 0 && part <= ends.length ? ends[part - 1] : 0; i >= 0 && i < end && i < code.length; i++) {
                 int element = code[i];
-                int var = -element - FIRST_VAR;
+                int named = -element - FIRST_VAR;
                 if (element >= 0 && top < stack.length) {
                     stack[top] = element;
                     top++;
-                } else if (var >= 0 && var < vars.length && top < stack.length) {
-                    stack[top] = vars[var];
+                } else if (named >= 0 && named < vars.length && top < stack.length) {
+                    stack[top] = vars[named];
                     top++;
                 } else if (top >= 2 && top <= stack.length) {
                     stack[top - 2] = joined(-element, stack[top - 2], stack[top - 1]);
