@@ -31,6 +31,31 @@ final class Everything {
         return s.toString();
     }
 
+    /** What would be, of each CLERK and DEED that is there and of the one behind the last. */
+    static String wouldBe(SealFaces x) {
+        StringBuilder s = new StringBuilder();
+        int clerks = x.count(0);
+        int deeds = x.count(1);
+        for (int i = -1; i <= deeds; i++) {
+            row(s, x.all(i), x.match(i), x.hands(i), x.blank(i), x.reads(i), x.apart(0, i), x.printIn(i, 0, 1), x.year(i, 9), x.look(0, i, 1));
+        }
+        for (int i = -1; i <= clerks; i++) {
+            row(s, x.work(i), x.lent(i, 0), x.heals(i), x.levelIn(i, 1, 1));
+        }
+        for (int what = 0; what < 2; what++) {
+            row(s, x.fewest(what), x.greatest(what), x.weakest(what), x.game(what), x.breaks(what), x.like(what), x.twins(2, what), x.barest(what));
+        }
+        row(s, x.bindsIn(0), x.bindsIn(1), x.bindsIn(40));
+        return s.toString();
+    }
+
+    private static void row(StringBuilder s, int... answers) {
+        for (int answer : answers) {
+            s.append(answer).append(' ');
+        }
+        s.append(", ");
+    }
+
     /** Goes back through all that can be undone, and on from each slot. */
     static String kept(SealFaces x) {
         StringBuilder s = new StringBuilder();

@@ -42,6 +42,8 @@ public final class FaultBoundsTest {
         faultsOfNamesOnlyWithoutOthers();
         faultChangesNothing();
         textInPlace();
+        fewerThanAhead();
+        noTreatiesAnyMore();
         notTold();
         lastOne();
         DUE.end();
@@ -551,9 +553,69 @@ public final class FaultBoundsTest {
         DUE.is("as a new object", Everything.of(x), Everything.of(new SealFaces()));
     }
 
+    /** What two larger texts told stays in no corner. */
+    private static void fewerThanAhead() {
+        DUE.says("else it is in place of the one ahead");
+        String large = "clerk a 30 9 9 9;clerk b 20 9 9 9;clerk c 20 9 9 9;clerk d 20 9 9 9;clerk e 20 9 9 9;deed u 50 3 2 1;deed v 60 1 1 1;deed w 9 4 4 4;"
+            + "deed x 60 1 1 1;deed y 60 1 1 1;deed z 60 1 1 1;treaty u v;treaty v w;treaty w x;treaty x y;treaty y z;treaty z u;"
+            + "takes=need;grows=1+feature;binds=worth+year;fades=1;slips 100;seed 9;";
+        String[] small = {"", "clerk a 1 5 5 5;", "deed u 7 1 1 1;", "clerk a 1 5 5 5;deed u 7 5 5 5;", "clerk a 1 5 5 5;clerk b 1 2 2 2;deed u 7 1 1 1;deed v 8 3 3 3;treaty v u;"};
+        for (int turn = 0; turn < 2 * small.length; turn++) {
+            String text = small[turn / 2];
+            SealFaces x = new SealFaces();
+            for (int n = 0; n < 2; n++) {
+                Due.read(x, large);
+                // what was worked out is of deeds that are open, or of none
+                for (int d = 0; d < 5 && turn % 2 == 0; d++) {
+                    x.seal(d, d);
+                    x.forge(5);
+                }
+            }
+            Everything.wouldBe(x);
+            SealFaces other = new SealFaces();
+            Due.read(x, text);
+            Due.read(other, text);
+            DUE.is("all behind <" + text + ">", Everything.of(x), Everything.of(other));
+            DUE.is("what would be behind <" + text + ">", Everything.wouldBe(x), Everything.wouldBe(other));
+            x.seal(0, 0);
+            other.seal(0, 0);
+            x.forge(1);
+            other.forge(1);
+            x.years(1);
+            other.years(1);
+            DUE.is("what would be then, behind <" + text + ">", Everything.wouldBe(x), Everything.wouldBe(other));
+        }
+    }
+
+    private static void noTreatiesAnyMore() {
+        DUE.says("else it is in place of the one ahead");
+        String two = "clerk a 1 9 9 9;clerk b 1 9 9 9;deed u 3 1 1 1;deed v 4 1 1 1;deed w 5 1 1 1;";
+        for (String treaties : new String[] {"", "treaty u w;"}) {
+            SealFaces x = new SealFaces();
+            Due.read(x, two + "treaty u v;treaty u v;treaty v u;");
+            Due.read(x, two + "treaty u v;treaty u v;treaty v u;");
+            Due.read(x, two + treaties);
+            x.seal(0, 0);
+            x.seal(1, 1);
+            DUE.is("count(7)", x.count(7), 0);
+            DUE.is("weakest(0)", x.weakest(0), -2);
+            DUE.is("breaks(0)", x.breaks(0), 0);
+        }
+    }
+
     private static void notTold() {
         DUE.says("LAWS: TAKES (need), GROWS (0), BINDS (worth), FADES (0), if not told .. SLIPS .. (0), SEED .. (0)");
-        SealFaces x = busy();
+        // behind one that told them all, and behind two
+        for (int n = 0; n < 2; n++) {
+            SealFaces x = busy();
+            if (n == 1) {
+                Due.read(x, "takes=1;grows=1;binds=1;fades=1;slips 100;seed 7;");
+            }
+            notTold(x);
+        }
+    }
+
+    private static void notTold(SealFaces x) {
         Due.read(x, "clerk a 1 9 9 9;clerk b 1 9 9 9;deed u 50 3 2 1;deed v 99 0 9 8;");
         for (int f = 0; f < 3; f++) {
             DUE.is("takes(0, 0, " + f + ")", x.takes(0, 0, f), 3 - f);

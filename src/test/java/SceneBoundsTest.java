@@ -32,6 +32,7 @@ public final class SceneBoundsTest {
         growsAtMost();
         fadesAtLeast();
         yearByHowItBegan();
+        yearOfAll();
         undone();
         undoneForty();
         undoOfNone();
@@ -450,6 +451,26 @@ public final class SceneBoundsTest {
         DUE.is("the next year", x.count(3), 2);
     }
 
+    private static void yearOfAll() {
+        DUE.says("each LEVEL of a CLERK is GROWS more .. each LEVEL of a PRINT is FADES less");
+        SealFaces x = DUE.told("clerk a 1 9 8 7;clerk b 2 8 8 8;clerk c 3 7 8 9;clerk d 4 9 9 9;clerk e 5 8 7 8;"
+            + "deed u 9 7 6 5;deed v 9 6 6 6;deed w 9 5 6 7;deed x 9 7 7 7;deed y 9 6 5 6;deed z 9 9 8 7;grows=1;fades=2;");
+        for (int d = 0; d < 5; d++) {
+            x.seal(d, d);
+        }
+        x.forge(5);
+        x.years(1);
+        int[][] prints = {{5, 4, 3}, {4, 4, 4}, {3, 4, 5}, {5, 5, 5}, {4, 3, 4}, {7, 6, 5}};
+        for (int f = 0; f < 3; f++) {
+            for (int clerk = 0; clerk < 5; clerk++) {
+                DUE.is("clerk(" + clerk + ", " + f + ")", x.clerk(clerk, f), 3);
+            }
+            for (int deed = 0; deed < 6; deed++) {
+                DUE.is("deed(" + deed + ", " + (3 + f) + ")", x.deed(deed, 3 + f), prints[deed][f]);
+            }
+        }
+    }
+
     private static void undone() {
         DUE.says("The last thing done (seal, forge, burn, years) is undone: true");
         SealFaces x = DUE.told(TWO);
@@ -725,5 +746,10 @@ public final class SceneBoundsTest {
             x.seal(0, d);
         }
         DUE.is("binds of six", x.count(6), 594);
+        x = DUE.told("clerk a 1 9 9 9;deed u 1 3 3 3;fades=1;binds=print+10*year;");
+        x.seal(0, 0);
+        x.years(1);
+        DUE.is("binds now", x.count(6), 16);
+        DUE.is("binds now", x.deed(0, 8), 16);
     }
 }

@@ -285,6 +285,9 @@ public final class ToldBoundsTest {
         DUE.is("none so", x.look(0, 0, 9), 0);
         x = DUE.told("clerk a 1 9 9 9;deed u 1 1 1 1;");
         DUE.is("one left, all alike", x.look(0, 0, 1), 0);
+        // a feature behind the chin, by which they would differ, is none
+        x = DUE.told("clerk a 1 9 9 9;clerk b 1 9 9 9;deed u 1 1 1 1;takes=if 2<feature then 9*which else if feature<0 then 9*which else 1;");
+        DUE.is("three features", x.look(0, 0, 5), 0);
     }
 
     private static void lookByEachLevel() {

@@ -38,6 +38,7 @@ public final class WouldBeBoundsTest {
         barestBounds();
         readsBounds();
         readsNextClerk();
+        slipsAtTheirBounds();
         slipsInReadsAndYearAlone();
         levelInBounds();
         printInBounds();
@@ -112,6 +113,11 @@ public final class WouldBeBoundsTest {
         alls("two small ones", DUE.told("clerk a 1 4 0 1;deed u 30 2 0 0;deed v 50 3 0 0;deed w 30 2 0 0;"), 60, 0, -2, 0);
         alls("one large one", DUE.told("clerk a 1 4 0 1;deed u 30 2 0 0;deed v 61 3 0 0;deed w 30 2 0 0;"), 61, -2, 0, -2);
         alls("0 is no more than 0", DUE.told(FIVE + "deed u 0 1 1 1;deed v 1 1 1 1;"), 1, -2, 0, -1);
+        // the last clerk seals all six: all digits of what tells who seals are as high as can be
+        alls("all six by the last", DUE.told("clerk a 1 0 0 0;clerk b 1 0 0 0;clerk c 1 0 0 0;clerk d 1 0 0 0;clerk e 1 9 9 9;" + SIX), 210, 4, 4, 4, 4, 4, 4, -1);
+        // a can the second alone, b the first alone, c the third
+        alls("crosswise", DUE.told("clerk a 1 1 9 9;clerk b 1 9 1 9;clerk c 1 9 9 1;deed u 9 5 0 5;deed v 8 0 5 5;deed w 7 5 5 0;"), 24, 1, 0, 2, -1);
+        alls("crosswise, two", DUE.told("clerk a 1 1 9 9;clerk b 1 9 1 9;deed u 9 5 0 5;deed v 8 0 5 5;"), 17, 1, 0, -1);
     }
 
     private static void allAlike() {
@@ -149,6 +155,12 @@ public final class WouldBeBoundsTest {
         x.seal(0, 1);
         alls("two sealed ahead", x, 24, -2, -2, 0, 0, 0, 0, -1);
         alls("by prints of it alone", DUE.told("clerk a 1 9 9 9;deed u 1 1 1 1;deed v 1 2 2 2;binds=print;"), 9, 0, 0, -1);
+        // 9 of 1 by 1, 9 of 2 by 2, 9 of 3 by 3: prints 3, 6, 9 times the worth of each
+        alls("by prints and worths", DUE.told("clerk a 1 9 9 9;deed u 3 1 1 1;deed v 1 2 2 2;deed w 2 3 3 3;binds=print*worth;"), 33, 0, 0, 0, -1);
+        alls("by prints of six", DUE.told("clerk a 1 9 9 9;" + SIX + "takes=if sealed<5 then 1 else 3;binds=print*worth/30;"), 1 + 2 + 3 + 4 + 5 + 18, 0, 0, 0, 0, 0, 0, -1);
+        x = DUE.told("clerk a 1 9 9 9;deed u 7 3 3 3;binds=worth+year;");
+        x.years(2);
+        alls("by the year that it is", x, 9, 0, -1);
     }
 
     private static void fewestOthers() {
@@ -193,6 +205,14 @@ public final class WouldBeBoundsTest {
         pair("two: fewest", x.fewest(0), x.fewest(1), 2, 3);
         x = DUE.told(FIVE.replace("9 9 9", "2 0 1") + SIX.replaceAll("1 1 1;", "1 0 0;"));
         pair("three of five: fewest", x.fewest(0), x.fewest(1), 3, 7);
+        x = DUE.told("clerk a 1 1 9 9;clerk b 1 9 1 9;deed u 9 5 0 5;deed v 8 0 5 5;");
+        pair("crosswise: fewest", x.fewest(0), x.fewest(1), 2, 3);
+        x = DUE.told("clerk a 1 1 9 9;clerk b 1 9 1 9;clerk c 1 9 9 1;deed u 9 5 0 5;deed v 8 0 5 5;deed w 7 5 5 0;");
+        pair("crosswise, three: fewest", x.fewest(0), x.fewest(1), 3, 7);
+        // each can u, and behind it one of the others: but u is sealed once alone
+        x = DUE.told("clerk a 1 3 3 3;clerk b 1 3 3 3;deed u 10 1 1 1;deed v 11 1 1 1;deed w 12 1 1 1;takes=if worth<11 then 1 else if sealed<1 then 9 else 1;");
+        pair("one behind the other: fewest", x.fewest(0), x.fewest(1), -2, -2);
+        alls("one behind the other", x, 22, 0, -2, 0, -1);
     }
 
     private static void fewestLeastBits() {
@@ -245,6 +265,9 @@ public final class WouldBeBoundsTest {
         matches("each their own", DUE.told("clerk a 1 1 1 2;clerk b 1 2 2 3;clerk c 1 3 3 4;clerk d 1 4 4 5;clerk e 1 5 5 6;"
             + "deed u 1 5 5 5;deed v 1 4 4 4;deed w 1 3 3 3;deed x 1 2 2 2;deed y 1 1 1 1;deed z 1 9 9 9;"), 5, 4, 3, 2, 1, 0, -2, -1);
         matches("as it is now, not behind one another", DUE.told("clerk a 1 9 9 9;clerk b 1 9 9 9;deed u 1 8 8 8;deed v 1 8 8 8;takes=need+sealed;"), 2, 0, 1, -1);
+        matches("the last alone", DUE.told(FIVE + SIX.replaceAll("([1-5]0) 1 1 1", "$1 9 9 9")), 1, -2, -2, -2, -2, -2, 0, -1);
+        matches("the last to the last", DUE.told("clerk a 1 0 0 0;clerk b 1 0 0 0;clerk c 1 0 0 0;clerk d 1 0 0 0;clerk e 1 9 9 9;"
+            + SIX.replaceAll("([1-5]0) 1 1 1", "$1 9 9 9")), 1, -2, -2, -2, -2, -2, 4, -1);
     }
 
     private static void matchAlike() {
@@ -279,6 +302,15 @@ public final class WouldBeBoundsTest {
         x.seal(0, 4);
         x.seal(0, 2);
         pair("alike: greatest", x.greatest(0), x.greatest(1), 2, 99);
+        // now 9 and 0 of 10, a year on 8 and 9
+        x = DUE.told("clerk a 1 9 9 9;deed u 9 1 1 1;deed v 0 1 1 1;binds=if worth<1 then 9*year else 9-year;");
+        x.seal(0, 0);
+        x.seal(0, 1);
+        pair("now: greatest", x.greatest(0), x.greatest(1), 0, 9);
+        x.years(1);
+        pair("a year on: greatest", x.greatest(0), x.greatest(1), 1, 9);
+        x.years(1);
+        pair("two years on: greatest", x.greatest(0), x.greatest(1), 1, 18);
     }
 
     private static void weakestBounds() {
@@ -301,6 +333,19 @@ public final class WouldBeBoundsTest {
         x.seal(0, 0);
         x.seal(1, 1);
         pair("that binds 0: weakest", x.weakest(0), x.weakest(1), 0, 0);
+        x = DUE.told("clerk a 1 9 9 9;clerk b 1 9 9 9;deed u 1 1 1 1;deed v 9 1 1 1;treaty u v;treaty v u;binds=if worth<2 then 8*year else worth;");
+        x.seal(0, 0);
+        x.seal(1, 1);
+        pair("now: weakest", x.weakest(0), x.weakest(1), 0, 0);
+        x.years(1);
+        pair("a year on: weakest", x.weakest(0), x.weakest(1), 0, 8);
+        x.years(1);
+        pair("two years on: weakest", x.weakest(0), x.weakest(1), 0, 9);
+        x = DUE.told("clerk a 1 9 9 9;clerk b 1 9 9 9;deed u 1 1 1 1;deed v 9 1 1 1;treaty v u;binds=if worth<2 then 8*year else worth;");
+        x.seal(0, 0);
+        x.seal(1, 1);
+        x.years(1);
+        pair("the other one now: weakest", x.weakest(0), x.weakest(1), 0, 8);
         pair("no treaties: weakest", DUE.told(FIVE).weakest(0), DUE.told(FIVE).weakest(1), -2, -2);
     }
 
@@ -381,6 +426,12 @@ public final class WouldBeBoundsTest {
         pair("a forged one alone: game", x.game(0), x.game(1), 0, 1);
         x.seal(0, 0);
         pair("and one sealed: game", x.game(0), x.game(1), 9, 0);
+        x = DUE.told("clerk a 1 9 9 9;deed u 9 1 1 1;deed v 0 1 1 1;binds=if worth<1 then 20*year else 10-year;");
+        x.seal(0, 0);
+        x.seal(0, 1);
+        pair("now: game", x.game(0), x.game(1), 10, 0);
+        x.years(1);
+        pair("a year on: game", x.game(0), x.game(1), 11, 1);
     }
 
     private static void breaksBounds() {
@@ -517,6 +568,13 @@ public final class WouldBeBoundsTest {
         DUE.is("the slowest of them", x.heals(0), 5);
         x = DUE.told("clerk a 1 0 0 0;");
         DUE.is("bare at first", x.heals(0), 0);
+        // of the CLERK asked alone, who stands between two that do not heal
+        x = DUE.told("clerk a 1 9 9 9;clerk b 1 9 9 9;clerk c 1 9 9 9;deed u 1 1 1 1;deed v 1 1 1 1;grows=which/1-which/2*2;");
+        x.seal(0, 0);
+        x.seal(2, 1);
+        DUE.is("between two", x.heals(1), 0);
+        DUE.is("the first", x.heals(0), -2);
+        DUE.is("the last", x.heals(2), -2);
     }
 
     private static int healsFrom(int year, int gone) {
@@ -558,6 +616,13 @@ public final class WouldBeBoundsTest {
         x = DUE.told("deed u 1 9 5 1;fades=if feature<2 then 9 else 0;");
         x.forge(0);
         DUE.is("one of them not", x.blank(0), -2);
+        x = DUE.told("deed u 1 1 1 1;deed v 1 1 1 1;deed w 1 1 1 1;fades=which/1-which/2*2;");
+        x.forge(0);
+        x.forge(1);
+        x.forge(2);
+        DUE.is("between two", x.blank(1), 1);
+        DUE.is("the first", x.blank(0), -2);
+        DUE.is("the last", x.blank(2), -2);
     }
 
     private static int blankFrom(int year, int gone) {
@@ -626,6 +691,23 @@ public final class WouldBeBoundsTest {
                 DUE.is("YEAR of it", x.year(clerk, 20), 20);
             }
         }
+    }
+
+    private static int readsBy(String slips, int seed) {
+        SealFaces x = DUE.told("clerk a 1 9 9 9;clerk b 1 9 9 9;deed u 1 1 1 1;" + slips + "seed " + seed + ";");
+        x.seal(0, 0);
+        return x.reads(0);
+    }
+
+    private static void slipsAtTheirBounds() {
+        DUE.says("if LOT 100 of the SEED and 8 * the year and the DEED is less than SLIPS");
+        // LOT 100 of seed 83 and 0 is 0, of seed 22 it is 99
+        DUE.is("0 is not less than 0, not told", readsBy("", 83), 0);
+        DUE.is("0 is not less than 0", readsBy("slips 0;", 83), 0);
+        DUE.is("0 is less than 1", readsBy("slips 1;", 83), 1);
+        DUE.is("99 is not less than 98", readsBy("slips 98;", 22), 0);
+        DUE.is("99 is not less than 99", readsBy("slips 99;", 22), 0);
+        DUE.is("99 is less than 100", readsBy("slips 100;", 22), 1);
     }
 
     private static void slipsInReadsAndYearAlone() {
