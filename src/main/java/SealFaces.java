@@ -81,6 +81,8 @@ public final class SealFaces {
     private static final int YEAR_AT = SEALERS_AT + MOST_DEEDS;
     private static final int SCENE_SIZE = YEAR_AT + 1;
 
+    // Less than all that can be bound or gained, and far enough from where ints wrap to be added to.
+    private static final int NEVER = -1000000000;
     private static final int DEED_SETS = 64;
     private static final int CLERK_SETS = 32;
 
@@ -784,14 +786,14 @@ public final class SealFaces {
         }
 
         void add(int element) {
-            if (size < code.length) {
+            if (size >= 0 && size < code.length) {
                 code[size] = element;
                 size++;
             }
         }
 
         void endPart() {
-            if (parts < ends.length) {
+            if (parts >= 0 && parts < ends.length) {
                 ends[parts] = size;
                 parts++;
             }
@@ -1106,7 +1108,7 @@ public final class SealFaces {
                 fault = ROOM;
             } else {
                 next++;
-                kind = next < tokens.kinds.length ? tokens.kinds[next] : END;
+                kind = next >= 0 && next < tokens.kinds.length ? tokens.kinds[next] : END;
             }
             return fault == 0;
         }
@@ -1618,7 +1620,6 @@ public final class SealFaces {
      */
     private static final class Plan {
         private static final int CODES = 46656;
-        private static final int NEVER = -1000000000;
         private static final int[] WEIGHTS = {7776, 1296, 216, 36, 6, 1};
 
         private final Hall hall;
@@ -1857,7 +1858,7 @@ public final class SealFaces {
             }
             put(gains, 0, 0);
             for (int set = 1; set <= closed; set++) {
-                int gain = Integer.MIN_VALUE;
+                int gain = NEVER;
                 for (int deed = 0; deed < MOST_DEEDS; deed++) {
                     if (hasBit(set, deed)) {
                         gain = Math.max(gain, gainBy(deed, set));

@@ -14,6 +14,8 @@ import java.util.regex.Pattern;
 /** What can be seen of the rules of LANGUAGE.md: the face, words that are ruled out, sizes. */
 public final class LanguageTest {
     private static final Due DUE = new Due();
+    private static final Set<String> LIBRARY = Set.of("Integer.bitCount", "Math.abs", "Math.floorDiv", "Math.max", "Math.min",
+        "System.arraycopy", "Arrays.fill");
     private static final String FACE = """
         int feed(int,int,int,int,int)
         int back(int)
@@ -61,7 +63,10 @@ public final class LanguageTest {
     public static void main(String[] args) throws IOException {
         face();
         inside();
-        source();
+        String source = Files.readString(Path.of("src/main/java/SealFaces.java"));
+        source(source);
+        library(withoutTexts(source));
+        methods(source);
         DUE.end();
     }
 
@@ -114,10 +119,13 @@ public final class LanguageTest {
         }
     }
 
-    private static void source() throws IOException {
-        String s = Files.readString(Path.of("src/main/java/SealFaces.java"));
-        String bare = s.replaceAll("(?s)/\\*.*?\\*/", "").replaceAll("//[^\n]*", "").replaceAll("\"[^\"\n]*\"", "\"\"");
-        for (String word : new String[] {"throw", "throws", "try", "catch", "synchronized", "assert", "volatile", "System\\.(?!arraycopy)",
+    private static String withoutTexts(String source) {
+        return source.replaceAll("(?s)/\\*.*?\\*/", "").replaceAll("//[^\n]*", "").replaceAll("\"[^\"\n]*\"", "\"\"");
+    }
+
+    private static void source(String s) {
+        String bare = withoutTexts(s);
+        for (String word : new String[] {"throw", "throws", "try", "catch", "synchronized", "assert", "volatile",
             "Object", "\\w+Exact", "hashCode", "toString", "package", "static\\s*\\{"}) {
             DUE.is("there is no " + word, Pattern.compile("\\b" + word + (word.matches("\\w+") ? "\\b" : "")).matcher(bare).find(), false);
         }
@@ -129,14 +137,44 @@ public final class LanguageTest {
             DUE.is("import " + imports.group(1), Set.of("java.util.Arrays", "java.util.ArrayList", "java.util.List").contains(imports.group(1)), true);
         }
         DUE.is("signs of 7 bits", s.chars().allMatch(c -> c < 128), true);
+    }
+
+    /** Rule 4 lists functions, so a constant such as the least int is outside too. */
+    private static void library(String bare) {
+        Matcher used = Pattern.compile("\\b(Integer|Long|Math|Arrays|System|String|Character|Boolean)\\.(\\w+)(\\(?)").matcher(bare);
+        while (used.find()) {
+            String name = used.group(1) + "." + used.group(2);
+            DUE.is("rule 4 has " + name, LIBRARY.contains(name) && used.group(3).equals("("), true);
+        }
+    }
+
+    private static void methods(String s) {
         int start = 0;
         String[] lines = s.split("\n");
         for (int i = 0; i < lines.length; i++) {
             if (lines[i].matches(" {4}( {4})?[a-z].*\\) \\{")) {
                 start = i;
-            } else if (lines[i].matches(" {4}( {4})?\\}")) {
-                DUE.is("some sixty lines: " + lines[start].trim(), i - start <= 60 || lines[start].contains("class"), true);
+            } else if (lines[i].matches(" {4}( {4})?\\}") && !lines[start].contains("class")) {
+                DUE.is("some sixty lines: " + lines[start].trim(), i - start <= 60, true);
+                indices(withoutTexts(String.join("\n", Arrays.copyOfRange(lines, start, i + 1))));
             }
+        }
+    }
+
+    /** Rule 7: a name that is used as an index was looked at in the same method, at both ends. */
+    private static void indices(String method) {
+        String first = method.lines().findFirst().orElse("").trim();
+        Matcher used = Pattern.compile("\\w+\\[(?:[A-Z_]+ \\+ )?([a-z]\\w*)(?: - (\\d))?\\]").matcher(method);
+        while (used.find()) {
+            String ahead = method.substring(0, used.start());
+            String name = "\\b" + used.group(1);
+            int taken = used.group(2) == null ? 0 : Integer.parseInt(used.group(2));
+            String least = "[" + taken + "-9]\\b";
+            boolean low = Pattern.compile(name + " >= " + least + "|" + name + " < " + least + "|" + name + " = " + least).matcher(ahead).find()
+                || taken == 1 && Pattern.compile(name + " > 0\\b").matcher(ahead).find();
+            boolean high = Pattern.compile(name + " (<|<=|>=|>) [A-Za-z_]").matcher(ahead).find();
+            DUE.is("looked at from 0 on: " + used.group() + " in " + first, low, true);
+            DUE.is("looked at up to the end: " + used.group() + " in " + first, high, true);
         }
     }
 }
